@@ -78,7 +78,6 @@ public final class CausalPlaces {
             c.seeStable(first);
         }
         c.forgetSeenVersions();
-        c.writes.clear();
         c.doing = OPEN;
         return 1;
     }

@@ -7,6 +7,7 @@ public final class Promise06CommitTest {
         keysOfTheFirstServerAlone();
         keysOfTheSecondServerAlone();
         keysOfBothServers();
+        theLeadersTimeMayBeTheGreatest();
         timeIsAboveAllThatItSaw();
         ownVersionsReplaceOthers();
         numbersAreOneRow();
@@ -93,6 +94,24 @@ public final class Promise06CommitTest {
         due.is("server(1, 3)", x.server(1, 3), 1);
         due.is("client(3, 1)", x.client(3, 1), 5);
         due.is("client(3, 2)", x.client(3, 2), 2);
+    }
+
+    private static void theLeadersTimeMayBeTheGreatest() {
+        CausalPlaces x = new CausalPlaces();
+        for (int i = 0; i < 4; i++) {
+            x.tick(2);
+        }
+        Steps.drain(x, 2, 3);
+        Steps.begin(x, 1, 3, 0, 1);
+        x.deliver(2, 3);
+        due.is("server(3, 0)", x.server(3, 0), 1);
+        x.deliver(3, 2);
+        due.is("transaction(0, 1), the greatest", x.transaction(0, 1), 5);
+        x.tick(3);
+        due.is("server(3, 11), it is prepared with 1 there", x.server(3, 11), 0);
+        x.deliver(2, 3);
+        due.is("server(3, 0), at least that", x.server(3, 0), 5);
+        due.is("server(3, 3)", x.server(3, 3), 1);
     }
 
     private static void timeIsAboveAllThatItSaw() {

@@ -44,6 +44,12 @@ public final class Promise08TickTest {
         due.is("server(0, 10) below time 3", x.server(0, 10), 2);
         due.is("tick(0)", x.tick(0), 5);
         due.is("server(0, 10) below time 3", x.server(0, 10), 2);
+        x.deliver(0, 4);
+        x.deliver(0, 4);
+        due.is("link(0, 4, 2), what UPTO tells", x.link(0, 4, 2), 2);
+        x.deliver(0, 4);
+        x.deliver(0, 4);
+        due.is("server(4, 10)", x.server(4, 10), 2);
         Steps.settlePlace(x, 0);
         due.is("server(0, 10) before the tick", x.server(0, 10), 2);
         due.is("tick(0)", x.tick(0), 6);
