@@ -5,7 +5,7 @@ public final class Promise08TickTest {
     public static void main(String[] args) {
         answersAndMessages();
         knownStopsBelowWhatIsPrepared();
-        knownStopsBelowWhatIsDecided();
+        knownStopsBelowTheLeastOfAll();
         gossipTellsAllThatIsKnown();
         due.end();
     }
@@ -56,36 +56,30 @@ public final class Promise08TickTest {
         due.is("server(0, 10)", x.server(0, 10), 6);
     }
 
-    private static void knownStopsBelowWhatIsDecided() {
+    private static void knownStopsBelowTheLeastOfAll() {
         CausalPlaces x = new CausalPlaces();
-        // Server 1 is ahead, so transaction 0 is decided with a time above its prepared one at 0.
+        // Server 1 is ahead: 0 and 1 are prepared at server 0 with 1 and 2, at server 1 with 7 and 8.
         for (int i = 0; i < 6; i++) {
             x.tick(1);
         }
+        Steps.drain(x, 1, 0);
         Steps.begin(x, 0, 1, 0, 1);
         Steps.begin(x, 3, 2, 2, 3);
-        due.is("server(0, 1)", x.server(0, 1), 2);
         x.deliver(0, 1);
         x.deliver(0, 1);
-        for (int i = 0; i < 6; i++) {
-            x.deliver(1, 0);
-        }
+        x.tick(0);
+        x.tick(1);
+        due.is("server(0, 10), below 1", x.server(0, 10), 0);
+        due.is("server(1, 10), below 7", x.server(1, 10), 6);
         x.deliver(1, 0);
         due.is("transaction(0, 1)", x.transaction(0, 1), 7);
-        due.is("server(0, 1)", x.server(0, 1), 1);
-        due.is("server(0, 2), waits for the prepared one", x.server(0, 2), 1);
+        due.is("server(0, 2), 0 is decided and waits for 1", x.server(0, 2), 1);
         x.tick(0);
-        due.is("server(0, 10), below prepared 2", x.server(0, 10), 1);
-        // At server 1 they are still prepared with 7 and 8; decide 1 first reaches it behind 0.
+        due.is("server(0, 10), below 2", x.server(0, 10), 1);
+        Steps.drain(x, 0, 1);
         x.tick(1);
-        due.is("server(1, 10)", x.server(1, 10), 6);
-        x.deliver(0, 1);
-        while (x.server(1, 1) > 1 && x.deliver(0, 1) > 0) {
-            continue;
-        }
-        x.tick(1);
-        due.is("server(1, 3)", x.server(1, 3), 1);
-        due.is("server(1, 10), below prepared 8", x.server(1, 10), 7);
+        due.is("server(1, 3), 0 is applied", x.server(1, 3), 1);
+        due.is("server(1, 10), below 8", x.server(1, 10), 7);
     }
 
     private static void gossipTellsAllThatIsKnown() {
