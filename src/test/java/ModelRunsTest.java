@@ -1,48 +1,53 @@
-/** Long mixed runs of calls: every answer, and at the end the whole state, is the model's. */
+/** Mixed runs of 512 calls: every answer is the model's. */
 public final class ModelRunsTest {
-    private static final int RUNS = 6000;
-    private static final int CALLS = 512;
-    private static final int WHATS = 34;
+    private static final int RUNS = 12000;
+    private static final int[] WHATS = {
+        -1, 0, 1, 2, 3, 4, 9, 10, 11, 12, 13, 19, 20, 21, 22, 23, 24, 25, 26, 27, 28, 29, 30, 31, 32, 33
+    };
+    // The dearest step of a run is a read with the look at its value.
+    private static final int CALLS_OF_A_STEP = 2;
     private static final Due due = new Due("model runs");
+    private static final int[] kindsTaken = new int[7];
 
     private static int seed;
-    private static int calls;
-    private static CausalPlaces x;
+    private static Store x;
     private static PlainModel y;
-    private static String now;
-    private static final int[] asked = new int[7];
-    private static int deepestDecided;
+    private static int transactions;
+    private static int mostDecided;
     private static int readsOfOthers;
 
     public static void main(String[] args) {
         for (int run = 0; run < RUNS; run++) {
+            due.during(" run " + run);
             seed = 12345 + 7919 * run;
-            x = new CausalPlaces();
+            x = new Store();
             y = new PlainModel();
-            int style = run % 6;
-            for (calls = 0; calls < CALLS; calls++) {
-                now = "run " + run + " call " + calls + ": ";
-                if (style > 3 && next(style == 4 ? 12 : 40) == 0) {
-                    sweep();
-                } else {
-                    call(style);
-                }
-            }
-            now = "run " + run + " end: ";
-            // Asking changes nothing, so the looks at the end can go beyond the 512 calls.
-            compareAll();
+            transactions = 0;
+            run(run % 6, 60 + 100 * (run / 6 % 3));
         }
         reachedWhatMatters();
         due.end();
     }
 
+    private static void run(int style, int looksAtTheEnd) {
+        while (x.callsLeft() >= looksAtTheEnd + CALLS_OF_A_STEP) {
+            if (style > 3 && next(style == 4 ? 12 : 40) == 0) {
+                sweep(looksAtTheEnd);
+            } else {
+                step(style);
+            }
+        }
+        while (x.callsLeft() > 0) {
+            look();
+        }
+    }
+
     /** A run that never meets the rare states would prove nothing. */
     private static void reachedWhatMatters() {
         for (int kind = 1; kind <= 6; kind++) {
-            due.is("messages of kind " + kind + " taken", asked[kind] > 1000, true);
+            due.is("messages of kind " + kind + " taken", kindsTaken[kind] > 1000, true);
         }
-        System.out.println("reads of other places' versions: " + readsOfOthers + ", decided ones that wait: " + deepestDecided);
-        due.is("rows of decided ones that wait", deepestDecided >= 5, true);
+        due.is("rows of decided ones that wait", mostDecided >= 4, true);
         due.is("reads of other places' versions", readsOfOthers > 1000, true);
     }
 
@@ -60,124 +65,118 @@ public final class ModelRunsTest {
         return die == 1 ? bound + next(3) : next(bound);
     }
 
-    private static void call(int style) {
+    private static void step(int style) {
         int die = next(100);
-        // Few clients and keys make transactions meet one another.
-        int c = style == 0 ? pick(6) : style == 1 ? 3 * next(2) : pick(6);
-        int k = style == 2 ? next(3) : style == 1 && next(8) > 0 ? 2 * next(4) : pick(8);
-        int sends = style == 3 ? 30 : 45;
-        if (style > 3 && next(3) == 0) {
-            read(c, k);
-        } else if (die < 10) {
-            due.is(now + "start(" + c + ")", x.start(c), y.start(c));
-        } else if (die < 17) {
-            read(c, k);
-        } else if (die < 31) {
-            int v = next(2000) - 1000;
-            due.is(now + "write(" + c + ", " + k + ", " + v + ")", x.write(c, k, v), y.write(c, k, v));
-        } else if (die < 40) {
-            due.is(now + "commit(" + c + ")", x.commit(c), y.commit(c));
-        } else if (die < 41) {
-            due.is(now + "abort(" + c + ")", x.abort(c), y.abort(c));
-        } else if (die < 41 + sends) {
+        if (die < 45) {
+            clientStep(style, next(8) > 0);
+        } else if (die < (style == 3 ? 65 : 85)) {
             deliver(style);
         } else if (die < 95) {
             int s = style == 1 ? next(2) : pick(6);
-            due.is(now + "tick(" + s + ")", x.tick(s), y.tick(s));
+            due.is(x.tick(s), y.tick(s));
         } else {
             look();
         }
     }
 
+    /** A call that fits what the client does, or just any one. */
+    private static void clientStep(int style, boolean fitting) {
+        // Few clients and keys make transactions meet one another.
+        int c = style == 1 ? 3 * next(2) : pick(6);
+        int k = style == 2 ? next(3) : style == 1 && next(8) > 0 ? 2 * next(4) : pick(8);
+        int die = next(20);
+        if (fitting && style != 1 && y.client(c, 0) == 2) {
+            int first = 2 * (c % 3);
+            take(first + die % 2, first + 1 - die % 2);
+        } else if (fitting ? y.client(c, 0) == 0 : die < 4) {
+            due.is(x.start(c), y.start(c));
+        } else if (die < 8) {
+            read(c, k);
+        } else if (die < 15) {
+            int v = next(2000) - 1000;
+            due.is(x.write(c, k, v), y.write(c, k, v));
+        } else if (die < 19) {
+            commit(c);
+        } else {
+            due.is(x.abort(c), y.abort(c));
+        }
+    }
+
     private static void read(int c, int k) {
-        int got = x.read(c, k);
-        due.is(now + "read(" + c + ", " + k + ")", got, y.read(c, k));
-        due.is(now + "value(" + c + ")", x.value(c), y.value(c));
-        if (got >= 0 && x.transaction(got, 0) != c % 3) {
+        int number = y.read(c, k);
+        due.is(x.read(c, k), number);
+        due.is(x.value(c), y.value(c));
+        if (number >= 0 && y.transaction(number, 0) != c % 3) {
             readsOfOthers++;
         }
     }
 
+    private static void commit(int c) {
+        int number = y.commit(c);
+        due.is(x.commit(c), number);
+        transactions = Math.max(transactions, number + 1);
+        mostDecided = Math.max(mostDecided, y.server(2 * (Math.max(c, 0) % 3), 2));
+    }
+
+    /** Mostly on a link that has a message. */
     private static void deliver(int style) {
-        int from = style == 1 ? next(5) / 4 : pick(6);
-        int to = style == 1 && next(4) > 0 ? from ^ 1 : (from + 2 + 2 * next(2)) % 6;
-        if (style != 1) {
-            int die = next(10);
-            to = die == 0 ? pick(6) : die < 5 ? from ^ 1 : to;
+        int from = 0;
+        int to = 0;
+        for (int tries = next(6); tries >= 0 && y.link(from, to, 0) <= 0; tries--) {
+            from = style == 1 ? next(5) / 4 : pick(6);
+            to = next(2) == 0 ? from ^ 1 : next(8) == 0 ? pick(6) : (from + 2 + 2 * next(2)) % 6;
         }
-        int kind = x.deliver(from, to);
-        due.is(now + "deliver(" + from + ", " + to + ")", kind, y.deliver(from, to));
+        take(from, to);
+    }
+
+    private static int take(int from, int to) {
+        int kind = y.deliver(from, to);
+        due.is(x.deliver(from, to), kind);
         if (kind > 0) {
-            asked[kind]++;
+            kindsTaken[kind]++;
         }
-        deepestDecided = Math.max(deepestDecided, x.server(0, 2));
+        return kind;
     }
 
     /** Ticks and full rows of messages, so that much becomes stable at a stroke. */
-    private static void sweep() {
+    private static void sweep(int callsToLeave) {
         int place = next(3);
-        for (int i = 0; i < 6; i++) {
+        for (int i = 0; i < 6 && x.callsLeft() > callsToLeave; i++) {
             int s = (2 * place + i) % 6;
             if (next(3) > 0) {
-                due.is(now + "sweeping tick(" + s + ")", x.tick(s), y.tick(s));
-                calls++;
+                due.is(x.tick(s), y.tick(s));
             }
-            takeAll(s, (s + 2) % 6);
-            takeAll(s, (s + 4) % 6);
-            takeAll(s, s ^ 1);
+            takeAll(s, (s + 2) % 6, callsToLeave);
+            takeAll(s, (s + 4) % 6, callsToLeave);
+            takeAll(s, s ^ 1, callsToLeave);
         }
     }
 
-    private static void takeAll(int from, int to) {
+    private static void takeAll(int from, int to, int callsToLeave) {
         int kind = next(4) > 0 ? 1 : 0;
-        while (kind > 0 && calls < CALLS) {
-            kind = x.deliver(from, to);
-            due.is(now + "sweeping deliver(" + from + ", " + to + ")", kind, y.deliver(from, to));
-            calls++;
+        while (kind > 0 && x.callsLeft() > callsToLeave) {
+            kind = take(from, to);
         }
     }
 
     private static void look() {
-        int s = pick(6);
-        int what = pick(WHATS);
-        int n = pick(30);
+        int i = pick(6);
+        int j = pick(6);
         int k = pick(8);
-        int to = pick(6);
-        due.is(now + "client(" + s + ", " + what + ")", x.client(s, what), y.client(s, what));
-        due.is(now + "server(" + s + ", " + what + ")", x.server(s, what), y.server(s, what));
-        due.is(now + "transaction(" + n + ", " + what + ")", x.transaction(n, what), y.transaction(n, what));
-        due.is(now + "written(" + n + ", " + k + ")", x.written(n, k), y.written(n, k));
-        due.is(now + "version(" + s + ", " + k + ", " + n + ")", x.version(s, k, n), y.version(s, k, n));
-        due.is(now + "link(" + s + ", " + to + ", 2)", x.link(s, to, 2), y.link(s, to, 2));
+        int n = pick(transactions + 1);
+        int what = WHATS[next(WHATS.length)];
+        switch (next(8)) {
+            case 0 -> due.is(x.client(i, what), y.client(i, what));
+            case 1, 2 -> due.is(x.server(i, what), y.server(i, what));
+            case 3 -> due.is(x.transaction(n, what), y.transaction(n, what));
+            case 4 -> due.is(x.written(n, k), y.written(n, k));
+            case 5, 6 -> lookAtVersion(i, k, pick(6));
+            default -> due.is(x.link(i, j, what % 4), y.link(i, j, what % 4));
+        }
     }
 
-    private static void compareAll() {
-        for (int i = 0; i < 6; i++) {
-            for (int what = -1; what <= WHATS; what++) {
-                due.is(now + "client(" + i + ", " + what + ")", x.client(i, what), y.client(i, what));
-                due.is(now + "server(" + i + ", " + what + ")", x.server(i, what), y.server(i, what));
-            }
-            for (int j = 0; j < 6; j++) {
-                for (int what = -1; what <= 3; what++) {
-                    due.is(now + "link(" + i + ", " + j + ", " + what + ")", x.link(i, j, what), y.link(i, j, what));
-                }
-            }
-            for (int k = 0; k < 8; k++) {
-                int end = x.server(i, 3);
-                for (int v = -1; v <= end; v++) {
-                    due.is(now + "version(" + i + ", " + k + ", " + v + ")", x.version(i, k, v), y.version(i, k, v));
-                }
-            }
-        }
-        int n = -1;
-        do {
-            for (int what = -1; what <= WHATS; what++) {
-                due.is(now + "transaction(" + n + ", " + what + ")", x.transaction(n, what), y.transaction(n, what));
-            }
-            for (int k = -1; k <= 8; k++) {
-                due.is(now + "written(" + n + ", " + k + ")", x.written(n, k), y.written(n, k));
-            }
-            n++;
-        } while (y.transaction(n - 1, 0) >= 0 || n == 0);
+    private static void lookAtVersion(int s, int k, int i) {
+        int kept = next(8) == 0 ? k : (k & ~1) | (s & 1);
+        due.is(x.version(s, kept, i), y.version(s, kept, i));
     }
 }

@@ -1,82 +1,69 @@
 /** Promise 14: version. */
+@Section("## Promise 14: version")
 public final class Promise14VersionTest {
-    private static final Due due = new Due("version");
-
     public static void main(String[] args) {
-        newerFirst();
-        alikeTimes();
-        wrongInputs();
-        due.end();
+        Due.runSentences(Promise14VersionTest.class);
     }
 
-    private static void newerFirst() {
-        CausalPlaces x = new CausalPlaces();
+    @Says("Of the versions of a key that a server has, the i-th by being newer (0 the newest): its transaction.")
+    static void newerOnesFirst(Due due) {
+        Store x = new Store();
         for (int n = 0; n < 5; n++) {
-            Steps.writeAll(x, 0, n, 0, n % 2 == 0 ? 2 : 4);
+            Steps.begin(x, 0, n, 0, n % 2 == 0 ? 2 : 4);
         }
         for (int i = 0; i < 5; i++) {
-            due.is("version(0, 0, " + i + ")", x.version(0, 0, i), 4 - i);
+            due.is(x.version(0, 0, i), 4 - i);
         }
-        due.is("version(0, 0, 5)", x.version(0, 0, 5), -1);
-        due.is("version(0, 2, 0)", x.version(0, 2, 0), 4);
-        due.is("version(0, 2, 1)", x.version(0, 2, 1), 2);
-        due.is("version(0, 2, 2)", x.version(0, 2, 2), 0);
-        due.is("version(0, 2, 3)", x.version(0, 2, 3), -1);
-        due.is("version(0, 4, 1)", x.version(0, 4, 1), 1);
-        due.is("version(0, 6, 0)", x.version(0, 6, 0), -1);
-        due.is("version(2, 0, 0), not yet there", x.version(2, 0, 0), -1);
-        x.deliver(0, 2);
-        due.is("version(2, 0, 0)", x.version(2, 0, 0), 0);
-        // An older one that comes later stands behind.
-        for (int i = 0; i < 9; i++) {
-            x.tick(2);
+        due.is(x.version(0, 2, 0), 4);
+        due.is(x.version(0, 2, 1), 2);
+        due.is(x.version(0, 2, 2), 0);
+        due.is(x.version(0, 4, 0), 3);
+        due.is(x.version(0, 4, 1), 1);
+        // Older ones that come later stand behind.
+        Steps.ticks(x, 2, 9);
+        Steps.begin(x, 1, 9, 0);
+        for (int got = 0; got < 5; got++) {
+            due.is(x.version(2, 0, 0), 5);
+            for (int i = 0; i < got; i++) {
+                due.is(x.version(2, 0, 1 + i), got - 1 - i);
+            }
+            x.deliver(0, 2);
         }
-        Steps.writeAll(x, 1, 9, 0);
-        x.deliver(0, 2);
-        due.is("version(2, 0, 0)", x.version(2, 0, 0), 5);
-        due.is("version(2, 0, 1)", x.version(2, 0, 1), 1);
-        due.is("version(2, 0, 2)", x.version(2, 0, 2), 0);
     }
 
-    private static void alikeTimes() {
-        CausalPlaces x = new CausalPlaces();
-        // All with time 1; the places come in another order than the numbers.
-        Steps.writeAll(x, 1, 1, 0);
-        Steps.writeAll(x, 2, 1, 0);
-        Steps.writeAll(x, 0, 1, 0);
-        Steps.drain(x, 2, 0);
-        Steps.drain(x, 4, 0);
-        due.is("version(0, 0, 0), place 2", x.version(0, 0, 0), 1);
-        due.is("version(0, 0, 1), place 1", x.version(0, 0, 1), 0);
-        due.is("version(0, 0, 2), place 0", x.version(0, 0, 2), 2);
-        // Alike time and place: two that were prepared apart and decided with the same time.
-        CausalPlaces y = new CausalPlaces();
-        y.tick(1);
-        Steps.begin(y, 0, 1, 0, 1);
-        Steps.begin(y, 3, 2, 0);
-        Steps.settlePlace(y, 0);
-        due.is("transaction(0, 1)", y.transaction(0, 1), 2);
-        due.is("transaction(1, 1)", y.transaction(1, 1), 2);
-        due.is("version(0, 0, 0), the greater number", y.version(0, 0, 0), 1);
-        due.is("version(0, 0, 1)", y.version(0, 0, 1), 0);
-    }
-
-    private static void wrongInputs() {
-        CausalPlaces x = new CausalPlaces();
-        Steps.writeAll(x, 0, 1, 0, 1, 2, 3, 4, 5, 6, 7);
+    @Says("NONE when there is none such,")
+    static void noneBeyondThem(Due due) {
+        Store x = new Store();
+        Steps.writeAll(x, 0, 1, 0, 1);
+        Steps.writeAll(x, 0, 2, 0, 1);
         for (int s = 0; s < 2; s++) {
-            for (int k = 0; k < 8; k++) {
-                due.is("version(" + s + ", " + k + ", 0)", x.version(s, k, 0), s == k % 2 ? 0 : -1);
+            due.is(x.version(s, s, 1), 0);
+            for (int i : new int[] {-1, -2, 2, 3, 199, 200, Integer.MIN_VALUE, Integer.MAX_VALUE}) {
+                due.is(x.version(s, s, i), -1);
             }
-            for (int k : Steps.WRONG_KEYS) {
-                due.is("version(" + s + ", " + k + ", 0)", x.version(s, k, 0), -1);
-            }
-        }
-        for (int i : new int[] {-1, 1, Integer.MIN_VALUE, Integer.MAX_VALUE}) {
-            due.is("version(0, 0, " + i + ")", x.version(0, 0, i), -1);
+            due.is(x.version(s, s + 2, 0), -1);
+            due.is(x.version(s + 2, s, 0), -1);
         }
         for (int s : Steps.WRONG_SERVERS) {
-            due.is("version(" + s + ", 0, 0)", x.version(s, 0, 0), -1);
+            due.is(x.version(s, 0, 0), -1);
+            due.is(x.version(s, 1, 0), -1);
+        }
+    }
+
+    @Says("or it does not keep the key.")
+    static void noneForOtherKeys(Due due) {
+        Store x = new Store();
+        Steps.writeAll(x, 1, 1, 0, 1, 2, 3, 4, 5, 6, 7);
+        for (int to = 0; to < 6; to++) {
+            Steps.drain(x, 2 + to % 2, to);
+        }
+        for (int s = 0; s < 6; s++) {
+            for (int k = 0; k < 8; k++) {
+                due.is(x.version(s, k, 0), s % 2 == k % 2 ? 0 : -1);
+            }
+            for (int k : Steps.WRONG_KEYS) {
+                due.is(x.version(s, k, 0), -1);
+            }
         }
     }
 }
