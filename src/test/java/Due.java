@@ -39,10 +39,8 @@ final class Due {
         return found;
     }
 
-    /** Says whether the test of one sentence found all answers due. */
-    boolean runSentence(Method m) {
+    private void runSentence(Method m) {
         int askedBefore = asked;
-        int wrongBefore = wrong;
         during("." + m.getName() + " (\"" + m.getAnnotation(Says.class).value() + "\")");
         try {
             m.invoke(null, this);
@@ -54,7 +52,6 @@ final class Due {
         if (asked == askedBefore) {
             fail("asked nothing");
         }
-        return wrong == wrongBefore;
     }
 
     /** Names what the next answers belong to. */

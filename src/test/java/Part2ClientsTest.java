@@ -60,7 +60,10 @@ public final class Part2ClientsTest {
         for (int round = 0; round < 3; round++) {
             Steps.tellPlace(x, 0, 1, 1);
             Steps.tellPlace(x, 2, 1, 2);
-            x.tick(2);
+            // The first server knows more than it has heard.
+            Steps.ticks(x, 2, 5);
+            x.tick(0);
+            Steps.drain(x, 0, 2);
             for (int p = 0; p < 3; p++) {
                 due.is(x.client(1, 10 + p), last[p]);
             }
@@ -433,23 +436,23 @@ public final class Part2ClientsTest {
 
     @Says("DECIDE is taken: it is prepared there no more, but decided, with that time;")
     static void decidedWithTheTransactionsTime(Due due) {
-        Store x = new Store();
-        // 0 and 1 are prepared at server 0 with 1 and 2, at server 1 with 7 and 8.
-        Steps.ticks(x, 1, 6);
-        Steps.drain(x, 1, 0);
-        Steps.begin(x, 0, 1, 0, 1);
-        Steps.begin(x, 3, 2, 2, 3);
-        x.deliver(0, 1);
-        x.deliver(0, 1);
-        due.is(x.server(0, 1), 2);
-        due.is(x.server(0, 2), 0);
-        x.deliver(1, 0);
-        // With time 1 it would be applied: with 7 it waits for the one that is prepared with 2.
-        due.is(x.server(0, 1), 1);
-        due.is(x.server(0, 2), 1);
-        due.is(x.server(0, 3), 0);
-        x.tick(0);
-        due.is(x.server(0, 10), 1);
+        for (int time = 1; time <= 2; time++) {
+            Store x = new Store();
+            // 0 and 1 are prepared at server 0 with 1 and 2; server 1 tells the time for 0.
+            Steps.ticks(x, 1, time - 1);
+            Steps.drain(x, 1, 0);
+            Steps.begin(x, 0, 1, 0, 1);
+            Steps.begin(x, 3, 2, 2, 3);
+            x.deliver(0, 1);
+            due.is(x.server(0, 1), 2);
+            due.is(x.server(0, 2), 0);
+            x.deliver(1, 0);
+            due.is(x.transaction(0, 1), time);
+            // With 1 it is applied; with 2 it waits for the other one.
+            due.is(x.server(0, 1), 1);
+            due.is(x.server(0, 2), time - 1);
+            due.is(x.server(0, 3), 2 - time);
+        }
     }
 
     @Says("the CLOCK is at least that time;")

@@ -105,7 +105,8 @@ public final class Part3ApplyTest {
     static void versionsGoToTheOtherPlaces(Due due) {
         for (int place = 0; place < 3; place++) {
             Store x = new Store();
-            Steps.writeAll(x, place, 1, 0);
+            Steps.begin(x, place, 1, 0);
+            due.is(x.link(2 * place, 2 * place + 1, 0), 0);
             Steps.writeAll(x, place, 1, 1);
             for (int s = 0; s < 6; s++) {
                 int from = 2 * place + s % 2;
@@ -115,7 +116,6 @@ public final class Part3ApplyTest {
                     due.is(x.link(from, s, 2), s % 2);
                 }
             }
-            due.is(x.link(2 * place, 2 * place + 1, 0), 0);
         }
     }
 

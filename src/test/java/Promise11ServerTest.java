@@ -55,6 +55,10 @@ public final class Promise11ServerTest {
         x.deliver(1, 0);
         due.is(x.server(0, 1), 1);
         due.is(x.server(1, 1), 2);
+        // One that is decided, and waits, is not prepared.
+        Steps.begin(x, 0, 1, 0);
+        due.is(x.server(0, 2), 1);
+        due.is(x.server(0, 1), 1);
         Steps.settlePlace(x, 0);
         due.is(x.server(0, 1), 0);
         due.is(x.server(1, 1), 0);
@@ -88,6 +92,12 @@ public final class Promise11ServerTest {
         due.is(x.server(4, 3), 2);
         due.is(x.server(2, 3), 0);
         Steps.begin(x, 2, 1, 6);
+        due.is(x.server(4, 3), 3);
+        // Neither one that is prepared nor one that is decided and waits.
+        Steps.begin(x, 2, 1, 6, 7);
+        Steps.begin(x, 5, 1, 6);
+        due.is(x.server(4, 1), 1);
+        due.is(x.server(4, 2), 1);
         due.is(x.server(4, 3), 3);
     }
 

@@ -19,6 +19,10 @@ public final class SentencesTest {
     private static final Due due = new Due("sentences");
 
     public static void main(String[] args) throws IOException, ClassNotFoundException {
+        if (!Files.isReadable(DOCUMENT)) {
+            System.out.println("sentences: not compared, as " + DOCUMENT + " is not there");
+            return;
+        }
         String document = Files.readString(DOCUMENT).replace("\r", "");
         Map<String, Class<?>> tests = testsBySection();
         List<String> sections = sectionsOf(document);
