@@ -14,7 +14,8 @@ import java.util.stream.Stream;
 public final class SentencesTest {
     private static final Path DOCUMENT = Path.of("../shared/DOC.md");
     private static final Path TESTS = Path.of("src/test/java");
-    private static final Pattern SECTION_HEADS = Pattern.compile("(?m)^(## What it is|PART \\d\\.|## Promise \\d+: .*)");
+    private static final Pattern SECTION_HEADS =
+            Pattern.compile("(?m)^(## What it is|PART \\d\\.|## Promise \\d+: .*)");
     private static final Pattern NEXT_HEAD = Pattern.compile("(?m)^(## |PART \\d\\.)");
     private static final Due due = new Due("sentences");
 
